@@ -54,8 +54,8 @@ public final class RoomTest {
     }
 
     private static void addAtTheEdge() {
-        int[] characters = {97, 10, 0x80, 0x800, 0x10000};
-        int[] sizes = {1, 2, 2, 3, 4};
+        int[] characters = {97, 0x7F, 10, 0x80, 0x800, 0x10000};
+        int[] sizes = {1, 1, 2, 2, 3, 4};
         for (int i = 0; i < characters.length; i++) {
             String call = "add(" + characters[i] + ")";
             EventLineDesk desk = ended(2998 - sizes[i]);
