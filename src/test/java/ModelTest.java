@@ -8,7 +8,7 @@ import java.util.Random;
  * UTF-8 from the Java library. The seeds are fixed, so a wrong run comes again.
  */
 public final class ModelTest {
-    private static final Checks CHECKS = new Checks();
+    private static final Checks CHECKS = new Checks("Promises 1 to 9");
     private static final int[] CHARACTERS = {
         -1, 0, 9, 10, 13, 92, 97, 0x7F, 0x80, 0x7FF, 0x800, 0xD7FF, 0xD800, 0xDFFF, 0xE000, 0xFFFF,
         0x10000, 0x10FFFF, 0x110000, Integer.MIN_VALUE, Integer.MAX_VALUE};

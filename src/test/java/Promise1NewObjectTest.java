@@ -1,6 +1,6 @@
 public final class Promise1NewObjectTest {
     public static void main(String[] args) {
-        Checks checks = new Checks();
+        Checks checks = new Checks("Promise 1");
         EventLineDesk desk = new EventLineDesk();
         checks.dueCounts("new", desk, 0, 0, -1, 0);
         checks.due("mark()", desk.mark(), 0);

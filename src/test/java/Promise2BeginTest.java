@@ -1,5 +1,5 @@
 public final class Promise2BeginTest {
-    private static final Checks CHECKS = new Checks();
+    private static final Checks CHECKS = new Checks("Promise 2");
 
     public static void main(String[] args) {
         firstBytes();

@@ -1,5 +1,5 @@
 public final class Promise3AddTest {
-    private static final Checks CHECKS = new Checks();
+    private static final Checks CHECKS = new Checks("Promise 3");
 
     public static void main(String[] args) {
         everyKind();

@@ -1,5 +1,5 @@
 public final class Promise4TextTest {
-    private static final Checks CHECKS = new Checks();
+    private static final Checks CHECKS = new Checks("Promise 4");
 
     public static void main(String[] args) {
         charactersThatStandTogether();

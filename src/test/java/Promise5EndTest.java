@@ -1,6 +1,6 @@
 public final class Promise5EndTest {
     public static void main(String[] args) {
-        Checks checks = new Checks();
+        Checks checks = new Checks("Promise 5");
         for (int kind = 0; kind <= 3; kind++) {
             EventLineDesk desk = new EventLineDesk();
             desk.begin(kind);

@@ -1,5 +1,5 @@
 public final class Promise6BackTest {
-    private static final Checks CHECKS = new Checks();
+    private static final Checks CHECKS = new Checks("Promise 6");
 
     public static void main(String[] args) {
         everyMark();

@@ -1,6 +1,6 @@
 public final class Promise7MarkTest {
     public static void main(String[] args) {
-        Checks checks = new Checks();
+        Checks checks = new Checks("Promise 7");
         EventLineDesk desk = new EventLineDesk();
         checks.due("mark(), new", desk.mark(), 0);
         desk.begin(0);

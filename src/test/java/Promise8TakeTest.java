@@ -1,5 +1,5 @@
 public final class Promise8TakeTest {
-    private static final Checks CHECKS = new Checks();
+    private static final Checks CHECKS = new Checks("Promise 8");
 
     public static void main(String[] args) {
         sizes();

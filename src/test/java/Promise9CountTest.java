@@ -1,6 +1,6 @@
 public final class Promise9CountTest {
     public static void main(String[] args) {
-        Checks checks = new Checks();
+        Checks checks = new Checks("Promise 9");
         EventLineDesk desk = new EventLineDesk();
         checks.dueCounts("new", desk, 0, 0, -1, 0);
         for (int kind = 0; kind <= 3; kind++) {
