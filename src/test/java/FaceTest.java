@@ -4,7 +4,7 @@ import java.lang.reflect.Method;
 import java.lang.reflect.Modifier;
 import java.util.TreeSet;
 
-/** The class shows the document's face and nothing else. */
+/** The class shows the document's face and nothing else (rules 1 and 5 of LANGUAGE.md). */
 public final class FaceTest {
     private static final String[] FACE = {
         "public boolean EventLineDesk.add(int)",
@@ -18,7 +18,18 @@ public final class FaceTest {
         "public EventLineDesk()",
     };
 
+    private static boolean right = true;
+
     public static void main(String[] args) {
+        dueFace();
+        dueOwnNames();
+        dueFinalStatics();
+        if (!right) {
+            System.exit(1);
+        }
+    }
+
+    private static void dueFace() {
         TreeSet<String> seen = new TreeSet<>();
         for (Constructor<?> constructor : EventLineDesk.class.getDeclaredConstructors()) {
             keepIfSeen(seen, constructor.getModifiers(), constructor.toString());
@@ -32,9 +43,36 @@ public final class FaceTest {
         int modifiers = EventLineDesk.class.getModifiers();
         boolean rightClass = Modifier.isPublic(modifiers) && Modifier.isFinal(modifiers);
         if (!rightClass || !seen.equals(new TreeSet<>(java.util.List.of(FACE)))) {
-            System.out.println("the face is " + Modifier.toString(modifiers) + " with " + seen);
-            System.exit(1);
+            tell("the face is " + Modifier.toString(modifiers) + " with " + seen);
         }
+    }
+
+    /** No private method bears the name of a public one. */
+    private static void dueOwnNames() {
+        TreeSet<String> shown = new TreeSet<>();
+        for (Method method : EventLineDesk.class.getDeclaredMethods()) {
+            if (Modifier.isPublic(method.getModifiers())) {
+                shown.add(method.getName());
+            }
+        }
+        for (Method method : EventLineDesk.class.getDeclaredMethods()) {
+            if (Modifier.isPrivate(method.getModifiers()) && shown.contains(method.getName())) {
+                tell("a public method's name is also borne by " + method);
+            }
+        }
+    }
+
+    private static void dueFinalStatics() {
+        for (Field field : EventLineDesk.class.getDeclaredFields()) {
+            if (Modifier.isStatic(field.getModifiers()) && !Modifier.isFinal(field.getModifiers())) {
+                tell("not final is " + field);
+            }
+        }
+    }
+
+    private static void tell(String what) {
+        right = false;
+        System.out.println(what);
     }
 
     private static void keepIfSeen(TreeSet<String> seen, int modifiers, String member) {
